@@ -337,15 +337,14 @@ public final class CoreScheduler {
         return taskTime[task] - cpuBase[taskCpu[task]];
     }
 
+    /** The other one may be NONE, which every task comes before: a search begins with it. */
     private boolean comesBefore(int task, int other) {
+        if (other == NONE) {
+            return true;
+        }
         long mine = relativeTime(task);
         long theirs = relativeTime(other);
         return mine < theirs || (mine == theirs && task < other);
-    }
-
-    /** The earlier one of a task and the best one found so far, which may be NONE. */
-    private int earlierOf(int best, int task) {
-        return best == NONE || comesBefore(task, best) ? task : best;
     }
 
     private int positionOf(int task) {
@@ -404,8 +403,8 @@ public final class CoreScheduler {
     private int findLeader(int core) {
         int leader = NONE;
         for (int task = 0; task < taskTotal; task++) {
-            if (isRunnable(task) && isOnCore(task, core)) {
-                leader = earlierOf(leader, task);
+            if (isRunnable(task) && isOnCore(task, core) && comesBefore(task, leader)) {
+                leader = task;
             }
         }
         return leader;
@@ -435,8 +434,8 @@ public final class CoreScheduler {
     private int findOwn(int cpu, int cookie) {
         int first = NONE;
         for (int task = 0; task < taskTotal; task++) {
-            if (isQueued(task, cpu) && taskCookie[task] == cookie) {
-                first = earlierOf(first, task);
+            if (isQueued(task, cpu) && taskCookie[task] == cookie && comesBefore(task, first)) {
+                first = task;
             }
         }
         return first;
@@ -445,11 +444,15 @@ public final class CoreScheduler {
     private int findLoot(int core, int cookie) {
         int first = NONE;
         for (int task = 0; task < taskTotal; task++) {
-            if (taskState[task] == READY && !isOnCore(task, core) && taskCookie[task] == cookie) {
-                first = earlierOf(first, task);
+            if (isLoot(task, core, cookie) && comesBefore(task, first)) {
+                first = task;
             }
         }
         return first;
+    }
+
+    private boolean isLoot(int task, int core, int cookie) {
+        return taskState[task] == READY && taskCookie[task] == cookie && !isOnCore(task, core);
     }
 
     private void giveToCpu(int cpu, int task) {
@@ -486,6 +489,7 @@ public final class CoreScheduler {
         return gained;
     }
 
+    /** No weight is below 1; it is tested here all the same, because it divides. */
     private static int costOfTick(int weight) {
         return weight < 1 ? TICK_COST : TICK_COST / weight;
     }
@@ -516,8 +520,8 @@ public final class CoreScheduler {
     private int findFirst(int cpu) {
         int first = NONE;
         for (int task = 0; task < taskTotal; task++) {
-            if (isQueued(task, cpu)) {
-                first = earlierOf(first, task);
+            if (isQueued(task, cpu) && comesBefore(task, first)) {
+                first = task;
             }
         }
         return first;

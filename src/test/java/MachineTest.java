@@ -48,13 +48,17 @@ public final class MachineTest {
         CoreScheduler s = new CoreScheduler();
         busy(s);
         CHECK.due("stolenTasks() is not 0 before", s.stolenTasks() > 0, true);
+        CHECK.due("some task has waited before", s.waitTicks(2) > 0, true);
         CHECK.due("reset(2)", s.reset(2), 2);
         CHECK.due("after the reset of a busy machine", Snapshot.of(s), empty(2));
         CHECK.due("stealing after a reset", s.setStealing(false), false);
-        CHECK.due("first task after a reset", s.createTask(0, 3, 4), 0);
-        CHECK.due("its time", s.virtualTime(0), 0);
-        CHECK.due("its run ticks", s.runTicks(0), 0);
-        CHECK.due("its wait ticks", s.waitTicks(0), 0);
+        for (int task = 0; task < 4; task++) {
+            CHECK.due("createTask after a reset", s.createTask(0, 3, 4), task);
+            CHECK.due("time of new task " + task, s.virtualTime(task), 0);
+            CHECK.due("run ticks of new task " + task, s.runTicks(task), 0);
+            CHECK.due("wait ticks of new task " + task, s.waitTicks(task), 0);
+            CHECK.due("state of new task " + task, s.stateOf(task), CoreScheduler.READY);
+        }
         busy(s);
         s.reset(1);
         s.reset(4);

@@ -1,0 +1,238 @@
+import java.util.List;
+import java.util.Random;
+
+/** Random runs of calls, wrong ones among them, whose answers are compared with the model's. */
+public final class ModelTest {
+    private static final Check CHECK = new Check("ModelTest");
+    private static final int RUNS = 400;
+    private static final int STEPS = 150;
+    private static final List<String> STATES = List.of("READY", "RUNNING", "SLEEPING", "EXITED");
+
+    private final Random random;
+    private final CoreScheduler real = new CoreScheduler();
+    private Model model = new Model(2);
+    private String where;
+
+    private ModelTest(int seed) {
+        random = new Random(seed);
+    }
+
+    public static void main(String[] args) {
+        for (int seed = 1; seed <= RUNS; seed++) {
+            ModelTest test = new ModelTest(seed);
+            for (int step = 0; step < STEPS; step++) {
+                test.where = "run " + seed + ", step " + step + ": ";
+                test.step();
+                test.compare();
+            }
+        }
+        CHECK.end();
+    }
+
+    /** Mostly a number within 0 to bound - 1, now and then one beside them. */
+    private int near(int bound) {
+        return random.nextInt(12) == 0 ? random.nextInt(bound + 4) - 2 : random.nextInt(bound);
+    }
+
+    private void step() {
+        switch (random.nextInt(14)) {
+            case 0, 1 -> create();
+            case 2 -> sleep();
+            case 3, 4 -> wake();
+            case 5 -> exitOrReset();
+            case 6 -> setWeight();
+            case 7 -> setCookie();
+            case 8, 9 -> move();
+            case 10 -> steal();
+            default -> tick();
+        }
+    }
+
+    private boolean noTask(int task) {
+        return task < 0 || task >= model.tasks.size();
+    }
+
+    private boolean noCpu(int cpu) {
+        return cpu < 0 || cpu >= model.cpus.size();
+    }
+
+    private String state(int task) {
+        return model.tasks.get(task).state;
+    }
+
+    private int someTask() {
+        return near(Math.max(1, model.tasks.size()));
+    }
+
+    private void create() {
+        int cpu = near(model.cpus.size());
+        int weight = 1 + near(64);
+        int cookie = random.nextInt(4) == 0 ? near(10) : random.nextInt(3);
+        String call = where + "createTask(" + cpu + ", " + weight + ", " + cookie + ")";
+        if (noCpu(cpu) || weight < 1 || weight > 64 || cookie < 0 || cookie > 9) {
+            CHECK.badArgument(call, () -> real.createTask(cpu, weight, cookie));
+        } else if (model.tasks.size() == 16) {
+            CHECK.badState(call, () -> real.createTask(cpu, weight, cookie));
+        } else {
+            int due = model.create(cpu, weight, cookie);
+            CHECK.due(call, real.createTask(cpu, weight, cookie), due);
+        }
+    }
+
+    private void sleep() {
+        int task = someTask();
+        String call = where + "sleep(" + task + ")";
+        if (noTask(task)) {
+            CHECK.badArgument(call, () -> real.sleep(task));
+        } else if (!model.tasks.get(task).runnable()) {
+            CHECK.badState(call, () -> real.sleep(task));
+        } else {
+            CHECK.due(call, real.sleep(task), STATES.indexOf(state(task)));
+            model.stop(task, "SLEEPING");
+        }
+    }
+
+    private void wake() {
+        int task = someTask();
+        String call = where + "wake(" + task + ")";
+        if (noTask(task)) {
+            CHECK.badArgument(call, () -> real.wake(task));
+        } else if (!state(task).equals("SLEEPING")) {
+            CHECK.badState(call, () -> real.wake(task));
+        } else {
+            CHECK.due(call, real.wake(task), model.wake(task));
+        }
+    }
+
+    private void exitOrReset() {
+        int task = someTask();
+        String call = where + "exit(" + task + ")";
+        if (random.nextInt(8) == 0) {
+            reset();
+        } else if (noTask(task)) {
+            CHECK.badArgument(call, () -> real.exit(task));
+        } else if (state(task).equals("EXITED")) {
+            CHECK.badState(call, () -> real.exit(task));
+        } else if (random.nextInt(3) == 0) {
+            CHECK.due(call, real.exit(task), STATES.indexOf(state(task)));
+            model.stop(task, "EXITED");
+        }
+    }
+
+    private void reset() {
+        int cores = 1 + near(4);
+        String call = where + "reset(" + cores + ")";
+        if (cores < 1 || cores > 4) {
+            CHECK.badArgument(call, () -> real.reset(cores));
+        } else {
+            CHECK.due(call, real.reset(cores), model.cores());
+            model = new Model(cores);
+        }
+    }
+
+    private void setWeight() {
+        int task = someTask();
+        int weight = 1 + near(64);
+        String call = where + "setWeight(" + task + ", " + weight + ")";
+        if (noTask(task) || weight < 1 || weight > 64) {
+            CHECK.badArgument(call, () -> real.setWeight(task, weight));
+        } else if (state(task).equals("EXITED")) {
+            CHECK.badState(call, () -> real.setWeight(task, weight));
+        } else {
+            CHECK.due(call, real.setWeight(task, weight), model.tasks.get(task).weight);
+            model.tasks.get(task).weight = weight;
+        }
+    }
+
+    private void setCookie() {
+        int task = someTask();
+        int cookie = random.nextInt(4) == 0 ? near(10) : random.nextInt(3);
+        String call = where + "setCookie(" + task + ", " + cookie + ")";
+        if (noTask(task) || cookie < 0 || cookie > 9) {
+            CHECK.badArgument(call, () -> real.setCookie(task, cookie));
+        } else if (state(task).equals("EXITED")) {
+            CHECK.badState(call, () -> real.setCookie(task, cookie));
+        } else {
+            CHECK.due(call, real.setCookie(task, cookie), model.tasks.get(task).cookie);
+            model.tasks.get(task).cookie = cookie;
+        }
+    }
+
+    private void move() {
+        int task = someTask();
+        int cpu = near(model.cpus.size());
+        String call = where + "moveTask(" + task + ", " + cpu + ")";
+        if (noTask(task) || noCpu(cpu)) {
+            CHECK.badArgument(call, () -> real.moveTask(task, cpu));
+        } else if (state(task).equals("RUNNING") || state(task).equals("EXITED")) {
+            CHECK.badState(call, () -> real.moveTask(task, cpu));
+        } else {
+            CHECK.due(call, real.moveTask(task, cpu), model.tasks.get(task).cpu);
+            model.move(task, cpu);
+        }
+    }
+
+    private void steal() {
+        boolean enabled = random.nextInt(3) != 0;
+        CHECK.due(where + "setStealing", real.setStealing(enabled), model.stealing);
+        model.stealing = enabled;
+    }
+
+    private void tick() {
+        int ticks = random.nextInt(4) == 0 ? 1 + near(100) : 1 + random.nextInt(3);
+        String call = where + "tick(" + ticks + ")";
+        if (ticks < 1 || ticks > 100) {
+            CHECK.badArgument(call, () -> real.tick(ticks));
+            return;
+        }
+        int gained = 0;
+        for (int i = 0; i < ticks; i++) {
+            gained += model.tick();
+        }
+        CHECK.due(call, real.tick(ticks), gained);
+    }
+
+    private void compare() {
+        CHECK.due(where + "taskCount", real.taskCount(), model.tasks.size());
+        CHECK.due(where + "stolenTasks", real.stolenTasks(), model.stolen);
+        for (Model.Task t : model.tasks) {
+            compareTask(t, where + "task " + t.number + " ");
+        }
+        for (Model.Cpu cpu : model.cpus) {
+            compareCpu(cpu, where + "CPU " + cpu.number + " ");
+        }
+        for (int core = 0; core < model.cores(); core++) {
+            CHECK.due(where + "coreCookie", real.coreCookie(core), model.cookies.get(core));
+            CHECK.due(where + "leaderOf", real.leaderOf(core), model.leader(core));
+        }
+        int none = model.cores();
+        CHECK.badArgument(where + "coreCookie", () -> real.coreCookie(none));
+        CHECK.badArgument(where + "runningTask", () -> real.runningTask(2 * none));
+        CHECK.badArgument(where + "stateOf", () -> real.stateOf(model.tasks.size()));
+    }
+
+    private void compareTask(Model.Task t, String what) {
+        CHECK.due(what + "state", real.stateOf(t.number), STATES.indexOf(t.state));
+        CHECK.due(what + "CPU", real.cpuOf(t.number), t.cpu);
+        CHECK.due(what + "time", real.virtualTime(t.number), t.time);
+        CHECK.due(what + "run ticks", real.runTicks(t.number), t.run);
+        CHECK.due(what + "wait ticks", real.waitTicks(t.number), t.wait);
+        double share = t.run == 0 ? 0.0 : (double) t.run / (double) (t.run + t.wait);
+        CHECK.due(what + "share", real.share(t.number), share);
+    }
+
+    private void compareCpu(Model.Cpu cpu, String what) {
+        int runs = cpu.runs == null ? -1 : cpu.runs.number;
+        List<Model.Task> queue = model.queue(cpu.number);
+        CHECK.due(what + "runs", real.runningTask(cpu.number), runs);
+        CHECK.due(what + "base", real.baseOf(cpu.number), cpu.base);
+        CHECK.due(what + "idle ticks", real.idleTicks(cpu.number), cpu.idle);
+        CHECK.due(what + "forced idle ticks", real.forcedIdleTicks(cpu.number), cpu.forced);
+        CHECK.due(what + "queue length", real.queueLength(cpu.number), queue.size());
+        for (int i = 0; i < queue.size(); i++) {
+            CHECK.due(what + "queue " + i, real.queuedTask(cpu.number, i), queue.get(i).number);
+        }
+        CHECK.badIndex(what + "queue", () -> real.queuedTask(cpu.number, queue.size()));
+        CHECK.badIndex(what + "queue", () -> real.queuedTask(cpu.number, -1));
+    }
+}
