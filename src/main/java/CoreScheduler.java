@@ -509,21 +509,24 @@ public final class CoreScheduler {
 
     private void raiseBases() {
         for (int cpu = 0; cpu < cpuTotal(); cpu++) {
-            int first = findFirst(cpu);
-            if (first != NONE) {
-                cpuBase[cpu] = Math.max(cpuBase[cpu], taskTime[first]);
+            int least = findLeastTime(cpu);
+            if (least != NONE) {
+                cpuBase[cpu] = Math.max(cpuBase[cpu], taskTime[least]);
             }
         }
     }
 
-    /** Within one queue the order by relative times is also the order by virtual times. */
-    private int findFirst(int cpu) {
-        int first = NONE;
+    /**
+     * Compares the virtual times themselves: a relative time wraps around when it leaves the range
+     * of long, so the first task of a queue need not be the one with the least virtual time.
+     */
+    private int findLeastTime(int cpu) {
+        int least = NONE;
         for (int task = 0; task < taskTotal; task++) {
-            if (isQueued(task, cpu) && comesBefore(task, first)) {
-                first = task;
+            if (isQueued(task, cpu) && (least == NONE || taskTime[task] < taskTime[least])) {
+                least = task;
             }
         }
-        return first;
+        return least;
     }
 }

@@ -1,7 +1,11 @@
+import java.util.Deque;
 import java.util.List;
 import java.util.Random;
 
-/** Random runs of calls, wrong ones among them, whose answers are compared with the model's. */
+/**
+ * Random runs of calls, wrong ones among them, whose answers are compared with the model's. A far
+ * run begins with times near the end of long and goes beyond it.
+ */
 public final class ModelTest {
     private static final Check CHECK = new Check("ModelTest");
     private static final int RUNS = 400;
@@ -9,24 +13,70 @@ public final class ModelTest {
     private static final List<String> STATES = List.of("READY", "RUNNING", "SLEEPING", "EXITED");
 
     private final Random random;
+    private final boolean far;
     private final CoreScheduler real = new CoreScheduler();
     private Model model = new Model(2);
     private String where;
 
-    private ModelTest(int seed) {
+    private ModelTest(int seed, boolean far) {
         random = new Random(seed);
+        this.far = far;
     }
 
     public static void main(String[] args) {
         for (int seed = 1; seed <= RUNS; seed++) {
-            ModelTest test = new ModelTest(seed);
-            for (int step = 0; step < STEPS; step++) {
-                test.where = "run " + seed + ", step " + step + ": ";
-                test.step();
-                test.compare();
-            }
+            new ModelTest(seed, false).run("run " + seed);
+            new ModelTest(seed, true).run("far run " + seed);
         }
         CHECK.end();
+    }
+
+    private void run(String name) {
+        where = name + ", climbing: ";
+        if (far) {
+            climb();
+        }
+        for (int step = 0; step < STEPS; step++) {
+            where = name + ", step " + step + ": ";
+            step();
+            compare();
+        }
+    }
+
+    /** Lifts the base of CPU 0 to where sums and differences of times leave the range of long. */
+    private void climb() {
+        resetTo(1 + random.nextInt(4));
+        long end = Long.MAX_VALUE / Climb.TURN;
+        Deque<Integer> ticks = Climb.ticksTo((end >> random.nextInt(6)) - random.nextInt(20));
+        CHECK.due(where + "createTask", real.createTask(0, 1, 0), model.create(0, 1, 0));
+        tickBoth(ticks.removeFirst());
+        for (int next : ticks) {
+            leap(0, 1, 0);
+            tickBoth(next);
+            compare();
+        }
+    }
+
+    /** As Climb's leap, for both; a task that sleeps already leaps too. */
+    private void leap(int task, int low, int high) {
+        if (model.tasks.get(task).runnable()) {
+            real.sleep(task);
+            model.stop(task, "SLEEPING");
+        }
+        real.moveTask(task, low);
+        model.move(task, low);
+        CHECK.due(where + "leaping", real.wake(task), model.wake(task));
+        real.moveTask(task, high);
+        model.move(task, high);
+    }
+
+    private void leapSomewhere() {
+        int task = someTask();
+        int low = random.nextInt(model.cpus.size());
+        int high = random.nextInt(model.cpus.size());
+        if (!noTask(task) && !state(task).equals("EXITED")) {
+            leap(task, low, high);
+        }
     }
 
     /** Mostly a number within 0 to bound - 1, now and then one beside them. */
@@ -44,6 +94,7 @@ public final class ModelTest {
             case 7 -> setCookie();
             case 8, 9 -> move();
             case 10 -> steal();
+            case 11 -> tickOrLeap();
             default -> tick();
         }
     }
@@ -107,7 +158,7 @@ public final class ModelTest {
     private void exitOrReset() {
         int task = someTask();
         String call = where + "exit(" + task + ")";
-        if (random.nextInt(8) == 0) {
+        if (!far && random.nextInt(8) == 0) {
             reset();
         } else if (noTask(task)) {
             CHECK.badArgument(call, () -> real.exit(task));
@@ -125,9 +176,13 @@ public final class ModelTest {
         if (cores < 1 || cores > 4) {
             CHECK.badArgument(call, () -> real.reset(cores));
         } else {
-            CHECK.due(call, real.reset(cores), model.cores());
-            model = new Model(cores);
+            resetTo(cores);
         }
+    }
+
+    private void resetTo(int cores) {
+        CHECK.due(where + "reset(" + cores + ")", real.reset(cores), model.cores());
+        model = new Model(cores);
     }
 
     private void setWeight() {
@@ -183,13 +238,25 @@ public final class ModelTest {
         String call = where + "tick(" + ticks + ")";
         if (ticks < 1 || ticks > 100) {
             CHECK.badArgument(call, () -> real.tick(ticks));
-            return;
+        } else {
+            tickBoth(ticks);
         }
+    }
+
+    private void tickBoth(int ticks) {
         int gained = 0;
         for (int i = 0; i < ticks; i++) {
             gained += model.tick();
         }
-        CHECK.due(call, real.tick(ticks), gained);
+        CHECK.due(where + "tick(" + ticks + ")", real.tick(ticks), gained);
+    }
+
+    private void tickOrLeap() {
+        if (far) {
+            leapSomewhere();
+        } else {
+            tick();
+        }
     }
 
     private void compare() {
