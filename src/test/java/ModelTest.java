@@ -4,7 +4,8 @@ import java.util.Random;
 
 /**
  * Random runs of calls, wrong ones among them, whose answers are compared with the model's. A far
- * run begins with times near the end of long and goes beyond it.
+ * run begins with a base of about a quarter of what a long holds or more; most get times beyond
+ * the end of long.
  */
 public final class ModelTest {
     private static final Check CHECK = new Check("ModelTest");
@@ -47,7 +48,7 @@ public final class ModelTest {
     private void climb() {
         resetTo(1 + random.nextInt(4));
         long end = Long.MAX_VALUE / Climb.TURN;
-        Deque<Integer> ticks = Climb.ticksTo((end >> random.nextInt(6)) - random.nextInt(20));
+        Deque<Integer> ticks = Climb.ticksTo((end >> random.nextInt(3)) - random.nextInt(20));
         CHECK.due(where + "createTask", real.createTask(0, 1, 0), model.create(0, 1, 0));
         tickBoth(ticks.removeFirst());
         for (int next : ticks) {
@@ -70,10 +71,11 @@ public final class ModelTest {
         model.move(task, high);
     }
 
+    /** Mostly to CPU 0, whose base is high, and often task 0, whose time is. */
     private void leapSomewhere() {
-        int task = someTask();
+        int task = random.nextInt(3) == 0 ? 0 : someTask();
         int low = random.nextInt(model.cpus.size());
-        int high = random.nextInt(model.cpus.size());
+        int high = random.nextInt(3) == 0 ? random.nextInt(model.cpus.size()) : 0;
         if (!noTask(task) && !state(task).equals("EXITED")) {
             leap(task, low, high);
         }
