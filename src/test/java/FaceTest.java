@@ -20,10 +20,16 @@ public final class FaceTest {
         "int forcedIdleTicks(int)", "int stolenTasks()"
     };
 
+    private static final Set<String> NAME_NOTHING =
+        Set.of("setStealing", "taskCount", "stolenTasks");
+    private static final Set<String> NAME_STATE =
+        Set.of("createTask", "sleep", "wake", "exit", "setWeight", "setCookie", "moveTask");
+
     public static void main(String[] args) {
         classAndConstructor();
         constants();
         methods();
+        namedExceptions();
         CHECK.end();
     }
 
@@ -76,6 +82,30 @@ public final class FaceTest {
         CHECK.due("methods", open.toString(), new TreeSet<>(Arrays.asList(METHODS)).toString());
         privateNames.retainAll(publicNames);
         CHECK.due("private methods with a public name", privateNames.toString(), "[]");
+    }
+
+    private static void namedExceptions() {
+        for (Method method : CoreScheduler.class.getMethods()) {
+            if (method.getDeclaringClass() == CoreScheduler.class) {
+                StringBuilder named = new StringBuilder();
+                for (Class<?> type : method.getExceptionTypes()) {
+                    named.append(type.getSimpleName()).append(' ');
+                }
+                String name = method.getName();
+                CHECK.due("exceptions that " + name + " names", named.toString(), namedBy(name));
+            }
+        }
+    }
+
+    private static String namedBy(String name) {
+        if (NAME_NOTHING.contains(name)) {
+            return "";
+        }
+        if (NAME_STATE.contains(name)) {
+            return "IllegalArgumentException IllegalStateException ";
+        }
+        return name.equals("queuedTask") ? "IllegalArgumentException IndexOutOfBoundsException "
+            : "IllegalArgumentException ";
     }
 
     private static String signatureOf(Method method) {

@@ -18,6 +18,8 @@ public final class FarTimesTest {
         runsPastTheEnd();
         negativeRelativeTimeLeads();
         stolenPastTheEnd();
+        timeAtTheVeryEnd();
+        relativeTimeAtTheVeryEnd();
         CHECK.end();
     }
 
@@ -139,5 +141,57 @@ public final class FarTimesTest {
         CHECK.due("it keeps its relative time", s.virtualTime(0), WRAPPED + Climb.TURN);
         CHECK.due("baseOf(0)", s.baseOf(0), HIGH);
         CHECK.due("baseOf(2)", s.baseOf(2), 0);
+    }
+
+    /** Task 0 alone on CPU 0, its time and the base at the greatest number that a long holds. */
+    private static CoreScheduler atTheVeryEnd() {
+        CoreScheduler s = climbed(LAST_TURNS);
+        for (int weight : new int[] {3, 8, 37, 62}) {
+            s.setWeight(0, weight);
+            s.tick(1);
+        }
+        s.setWeight(0, 64);
+        CHECK.due("the last time", s.virtualTime(0), Long.MAX_VALUE);
+        CHECK.due("the last base", s.baseOf(0), Long.MAX_VALUE);
+        return s;
+    }
+
+    private static void timeAtTheVeryEnd() {
+        CoreScheduler s = atTheVeryEnd();
+        s.createTask(0, 64, 0);
+        CHECK.due("a new task's time", s.virtualTime(1), Long.MAX_VALUE);
+        CHECK.due("a tie goes to the lower number", s.leaderOf(0), 0);
+        s.tick(1);
+        CHECK.due("one tick further", s.virtualTime(0), Long.MIN_VALUE + 77);
+        CHECK.due("the base stays", s.baseOf(0), Long.MAX_VALUE);
+        CHECK.due("relative time 0", s.queuedTask(0, 0), 1);
+        CHECK.due("relative time 78", s.queuedTask(0, 1), 0);
+        s.tick(1);
+        CHECK.due("the other one too", s.virtualTime(1), Long.MIN_VALUE + 77);
+        CHECK.due("the base still stays", s.baseOf(0), Long.MAX_VALUE);
+        s.moveTask(0, 1);
+        CHECK.due("moved to base 0", s.virtualTime(0), 78);
+        s.moveTask(0, 0);
+        CHECK.due("moved back", s.virtualTime(0), Long.MIN_VALUE + 77);
+        s.sleep(0);
+        CHECK.due("woken at the base", s.wake(0), Long.MAX_VALUE);
+    }
+
+    private static void relativeTimeAtTheVeryEnd() {
+        CoreScheduler s = atTheVeryEnd();
+        s.createTask(1, 1, 0);
+        s.sleep(0);
+        s.moveTask(0, 1);
+        CHECK.due("relative time and time", s.wake(0), Long.MAX_VALUE);
+        CHECK.due("0 comes first", s.queuedTask(1, 0), 1);
+        CHECK.due("the greatest is last", s.queuedTask(1, 1), 0);
+        s.sleep(1);
+        s.tick(1);
+        CHECK.due("one tick further", s.virtualTime(0), Long.MIN_VALUE + 77);
+        CHECK.due("the base stays 0", s.baseOf(1), 0);
+        s.wake(1);
+        CHECK.due("a negative relative time comes first", s.queuedTask(1, 0), 0);
+        CHECK.due("then 0", s.queuedTask(1, 1), 1);
+        CHECK.due("and it leads", s.leaderOf(0), 0);
     }
 }

@@ -20,6 +20,7 @@ public final class MachineTest {
                 text.append("cpu ").append(cpu).append(" runs -1 base 0 idle 0 forced 0 queue\n");
             }
         }
+        text.append("cores ").append(cores).append('\n');
         return text.toString();
     }
 

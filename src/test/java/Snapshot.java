@@ -4,19 +4,28 @@ final class Snapshot {
     }
 
     static String of(CoreScheduler s) {
+        return of(s, coresOf(s));
+    }
+
+    /**
+     * Makes no wrong call before all has been read, so that a wrong call that changes something is
+     * seen by its change and not hidden by another one.
+     */
+    static String of(CoreScheduler s, int cores) {
         StringBuilder text = new StringBuilder();
         text.append("tasks ").append(s.taskCount());
         text.append(" stolen ").append(s.stolenTasks()).append('\n');
         for (int task = 0; task < s.taskCount(); task++) {
             addTask(text, s, task);
         }
-        for (int core = 0; core < coresOf(s); core++) {
+        for (int core = 0; core < cores; core++) {
             text.append("core ").append(core);
             text.append(" cookie ").append(s.coreCookie(core));
             text.append(" leader ").append(s.leaderOf(core)).append('\n');
             addCpu(text, s, 2 * core);
             addCpu(text, s, 2 * core + 1);
         }
+        text.append("cores ").append(coresOf(s)).append('\n');
         return text.toString();
     }
 
