@@ -1,3 +1,4 @@
+import java.util.ArrayList;
 import java.util.Deque;
 import java.util.List;
 import java.util.Random;
@@ -6,16 +7,24 @@ import java.util.Random;
  * Random runs of calls, wrong ones among them, whose answers are compared with the model's. A far
  * run begins with a base of about a quarter of what a long holds or more; most get times beyond
  * the end of long.
+ *
+ * An object answers 512 calls and no more, so a run can't ask everything after each step: it asks
+ * one thing at random, and everything at its end. Runs are many and of all lengths instead.
  */
 public final class ModelTest {
     private static final Check CHECK = new Check("ModelTest");
-    private static final int RUNS = 400;
-    private static final int STEPS = 150;
+    private static final int RUNS = 2500;
+    private static final int CALLS = 512;
+    /** A leap and a question. */
+    private static final int MOST_CALLS_OF_A_STEP = 5;
+    /** Of four cores and sixteen tasks. */
+    private static final int MOST_QUESTIONS = 181;
     private static final List<String> STATES = List.of("READY", "RUNNING", "SLEEPING", "EXITED");
 
     private final Random random;
     private final boolean far;
-    private final CoreScheduler real = new CoreScheduler();
+    private final CoreScheduler scheduler = new CoreScheduler();
+    private int calls = 0;
     private Model model = new Model(2);
     private String where;
 
@@ -37,11 +46,25 @@ public final class ModelTest {
         if (far) {
             climb();
         }
-        for (int step = 0; step < STEPS; step++) {
+        int steps = random.nextInt(CALLS - MOST_QUESTIONS);
+        for (int step = 0; step < steps && roomForAStep(); step++) {
             where = name + ", step " + step + ": ";
             step();
-            compare();
+            askOne();
         }
+        where = name + ", at its end: ";
+        askAll();
+        CHECK.due(where + "no more than 512 calls", calls <= CALLS, true);
+    }
+
+    /** All calls go through here, so that all are counted. */
+    private CoreScheduler real() {
+        calls++;
+        return scheduler;
+    }
+
+    private boolean roomForAStep() {
+        return calls + MOST_CALLS_OF_A_STEP + MOST_QUESTIONS <= CALLS;
     }
 
     /** Lifts the base of CPU 0 to where sums and differences of times leave the range of long. */
@@ -49,25 +72,24 @@ public final class ModelTest {
         resetTo(1 + random.nextInt(4));
         long end = Long.MAX_VALUE / Climb.TURN;
         Deque<Integer> ticks = Climb.ticksTo((end >> random.nextInt(3)) - random.nextInt(20));
-        CHECK.due(where + "createTask", real.createTask(0, 1, 0), model.create(0, 1, 0));
+        CHECK.due(where + "createTask", real().createTask(0, 1, 0), model.create(0, 1, 0));
         tickBoth(ticks.removeFirst());
         for (int next : ticks) {
             leap(0, 1, 0);
             tickBoth(next);
-            compare();
         }
     }
 
     /** As Climb's leap, for both; a task that sleeps already leaps too. */
     private void leap(int task, int low, int high) {
         if (model.tasks.get(task).runnable()) {
-            real.sleep(task);
+            real().sleep(task);
             model.stop(task, "SLEEPING");
         }
-        real.moveTask(task, low);
+        real().moveTask(task, low);
         model.move(task, low);
-        CHECK.due(where + "leaping", real.wake(task), model.wake(task));
-        real.moveTask(task, high);
+        CHECK.due(where + "leaping", real().wake(task), model.wake(task));
+        real().moveTask(task, high);
         model.move(task, high);
     }
 
@@ -123,12 +145,12 @@ public final class ModelTest {
         int cookie = random.nextInt(4) == 0 ? near(10) : random.nextInt(3);
         String call = where + "createTask(" + cpu + ", " + weight + ", " + cookie + ")";
         if (noCpu(cpu) || weight < 1 || weight > 64 || cookie < 0 || cookie > 9) {
-            CHECK.badArgument(call, () -> real.createTask(cpu, weight, cookie));
+            CHECK.badArgument(call, () -> real().createTask(cpu, weight, cookie));
         } else if (model.tasks.size() == 16) {
-            CHECK.badState(call, () -> real.createTask(cpu, weight, cookie));
+            CHECK.badState(call, () -> real().createTask(cpu, weight, cookie));
         } else {
             int due = model.create(cpu, weight, cookie);
-            CHECK.due(call, real.createTask(cpu, weight, cookie), due);
+            CHECK.due(call, real().createTask(cpu, weight, cookie), due);
         }
     }
 
@@ -136,11 +158,11 @@ public final class ModelTest {
         int task = someTask();
         String call = where + "sleep(" + task + ")";
         if (noTask(task)) {
-            CHECK.badArgument(call, () -> real.sleep(task));
+            CHECK.badArgument(call, () -> real().sleep(task));
         } else if (!model.tasks.get(task).runnable()) {
-            CHECK.badState(call, () -> real.sleep(task));
+            CHECK.badState(call, () -> real().sleep(task));
         } else {
-            CHECK.due(call, real.sleep(task), STATES.indexOf(state(task)));
+            CHECK.due(call, real().sleep(task), STATES.indexOf(state(task)));
             model.stop(task, "SLEEPING");
         }
     }
@@ -149,11 +171,11 @@ public final class ModelTest {
         int task = someTask();
         String call = where + "wake(" + task + ")";
         if (noTask(task)) {
-            CHECK.badArgument(call, () -> real.wake(task));
+            CHECK.badArgument(call, () -> real().wake(task));
         } else if (!state(task).equals("SLEEPING")) {
-            CHECK.badState(call, () -> real.wake(task));
+            CHECK.badState(call, () -> real().wake(task));
         } else {
-            CHECK.due(call, real.wake(task), model.wake(task));
+            CHECK.due(call, real().wake(task), model.wake(task));
         }
     }
 
@@ -163,11 +185,11 @@ public final class ModelTest {
         if (!far && random.nextInt(8) == 0) {
             reset();
         } else if (noTask(task)) {
-            CHECK.badArgument(call, () -> real.exit(task));
+            CHECK.badArgument(call, () -> real().exit(task));
         } else if (state(task).equals("EXITED")) {
-            CHECK.badState(call, () -> real.exit(task));
+            CHECK.badState(call, () -> real().exit(task));
         } else if (random.nextInt(3) == 0) {
-            CHECK.due(call, real.exit(task), STATES.indexOf(state(task)));
+            CHECK.due(call, real().exit(task), STATES.indexOf(state(task)));
             model.stop(task, "EXITED");
         }
     }
@@ -176,14 +198,14 @@ public final class ModelTest {
         int cores = 1 + near(4);
         String call = where + "reset(" + cores + ")";
         if (cores < 1 || cores > 4) {
-            CHECK.badArgument(call, () -> real.reset(cores));
+            CHECK.badArgument(call, () -> real().reset(cores));
         } else {
             resetTo(cores);
         }
     }
 
     private void resetTo(int cores) {
-        CHECK.due(where + "reset(" + cores + ")", real.reset(cores), model.cores());
+        CHECK.due(where + "reset(" + cores + ")", real().reset(cores), model.cores());
         model = new Model(cores);
     }
 
@@ -192,11 +214,11 @@ public final class ModelTest {
         int weight = 1 + near(64);
         String call = where + "setWeight(" + task + ", " + weight + ")";
         if (noTask(task) || weight < 1 || weight > 64) {
-            CHECK.badArgument(call, () -> real.setWeight(task, weight));
+            CHECK.badArgument(call, () -> real().setWeight(task, weight));
         } else if (state(task).equals("EXITED")) {
-            CHECK.badState(call, () -> real.setWeight(task, weight));
+            CHECK.badState(call, () -> real().setWeight(task, weight));
         } else {
-            CHECK.due(call, real.setWeight(task, weight), model.tasks.get(task).weight);
+            CHECK.due(call, real().setWeight(task, weight), model.tasks.get(task).weight);
             model.tasks.get(task).weight = weight;
         }
     }
@@ -206,11 +228,11 @@ public final class ModelTest {
         int cookie = random.nextInt(4) == 0 ? near(10) : random.nextInt(3);
         String call = where + "setCookie(" + task + ", " + cookie + ")";
         if (noTask(task) || cookie < 0 || cookie > 9) {
-            CHECK.badArgument(call, () -> real.setCookie(task, cookie));
+            CHECK.badArgument(call, () -> real().setCookie(task, cookie));
         } else if (state(task).equals("EXITED")) {
-            CHECK.badState(call, () -> real.setCookie(task, cookie));
+            CHECK.badState(call, () -> real().setCookie(task, cookie));
         } else {
-            CHECK.due(call, real.setCookie(task, cookie), model.tasks.get(task).cookie);
+            CHECK.due(call, real().setCookie(task, cookie), model.tasks.get(task).cookie);
             model.tasks.get(task).cookie = cookie;
         }
     }
@@ -220,18 +242,18 @@ public final class ModelTest {
         int cpu = near(model.cpus.size());
         String call = where + "moveTask(" + task + ", " + cpu + ")";
         if (noTask(task) || noCpu(cpu)) {
-            CHECK.badArgument(call, () -> real.moveTask(task, cpu));
+            CHECK.badArgument(call, () -> real().moveTask(task, cpu));
         } else if (state(task).equals("RUNNING") || state(task).equals("EXITED")) {
-            CHECK.badState(call, () -> real.moveTask(task, cpu));
+            CHECK.badState(call, () -> real().moveTask(task, cpu));
         } else {
-            CHECK.due(call, real.moveTask(task, cpu), model.tasks.get(task).cpu);
+            CHECK.due(call, real().moveTask(task, cpu), model.tasks.get(task).cpu);
             model.move(task, cpu);
         }
     }
 
     private void steal() {
         boolean enabled = random.nextInt(3) != 0;
-        CHECK.due(where + "setStealing", real.setStealing(enabled), model.stealing);
+        CHECK.due(where + "setStealing", real().setStealing(enabled), model.stealing);
         model.stealing = enabled;
     }
 
@@ -239,7 +261,7 @@ public final class ModelTest {
         int ticks = random.nextInt(4) == 0 ? 1 + near(100) : 1 + random.nextInt(3);
         String call = where + "tick(" + ticks + ")";
         if (ticks < 1 || ticks > 100) {
-            CHECK.badArgument(call, () -> real.tick(ticks));
+            CHECK.badArgument(call, () -> real().tick(ticks));
         } else {
             tickBoth(ticks);
         }
@@ -250,7 +272,7 @@ public final class ModelTest {
         for (int i = 0; i < ticks; i++) {
             gained += model.tick();
         }
-        CHECK.due(where + "tick(" + ticks + ")", real.tick(ticks), gained);
+        CHECK.due(where + "tick(" + ticks + ")", real().tick(ticks), gained);
     }
 
     private void tickOrLeap() {
@@ -261,47 +283,72 @@ public final class ModelTest {
         }
     }
 
-    private void compare() {
-        CHECK.due(where + "taskCount", real.taskCount(), model.tasks.size());
-        CHECK.due(where + "stolenTasks", real.stolenTasks(), model.stolen);
+    // ---- questions, each of them one call
+
+    private void askOne() {
+        List<Runnable> all = questions();
+        all.get(random.nextInt(all.size())).run();
+    }
+
+    private void askAll() {
+        for (Runnable question : questions()) {
+            question.run();
+        }
+    }
+
+    private List<Runnable> questions() {
+        List<Runnable> all = new ArrayList<>();
+        all.add(() -> CHECK.due(where + "taskCount", real().taskCount(), model.tasks.size()));
+        all.add(() -> CHECK.due(where + "stolenTasks", real().stolenTasks(), model.stolen));
         for (Model.Task t : model.tasks) {
-            compareTask(t, where + "task " + t.number + " ");
+            addTask(all, t, where + "task " + t.number + " ");
         }
         for (Model.Cpu cpu : model.cpus) {
-            compareCpu(cpu, where + "CPU " + cpu.number + " ");
+            addCpu(all, cpu, where + "CPU " + cpu.number + " ");
         }
         for (int core = 0; core < model.cores(); core++) {
-            CHECK.due(where + "coreCookie", real.coreCookie(core), model.cookies.get(core));
-            CHECK.due(where + "leaderOf", real.leaderOf(core), model.leader(core));
+            addCore(all, core, where + "core " + core + " ");
         }
         int none = model.cores();
-        CHECK.badArgument(where + "coreCookie", () -> real.coreCookie(none));
-        CHECK.badArgument(where + "runningTask", () -> real.runningTask(2 * none));
-        CHECK.badArgument(where + "stateOf", () -> real.stateOf(model.tasks.size()));
+        all.add(() -> CHECK.badArgument(where + "coreCookie", () -> real().coreCookie(none)));
+        all.add(() -> CHECK.badArgument(where + "runningTask", () -> real().runningTask(2 * none)));
+        all.add(() -> CHECK.badArgument(where + "stateOf",
+            () -> real().stateOf(model.tasks.size())));
+        return all;
     }
 
-    private void compareTask(Model.Task t, String what) {
-        CHECK.due(what + "state", real.stateOf(t.number), STATES.indexOf(t.state));
-        CHECK.due(what + "CPU", real.cpuOf(t.number), t.cpu);
-        CHECK.due(what + "time", real.virtualTime(t.number), t.time);
-        CHECK.due(what + "run ticks", real.runTicks(t.number), t.run);
-        CHECK.due(what + "wait ticks", real.waitTicks(t.number), t.wait);
+    private void addTask(List<Runnable> all, Model.Task t, String what) {
+        int task = t.number;
         double share = t.run == 0 ? 0.0 : (double) t.run / (double) (t.run + t.wait);
-        CHECK.due(what + "share", real.share(t.number), share);
+        all.add(() -> CHECK.due(what + "state", real().stateOf(task), STATES.indexOf(t.state)));
+        all.add(() -> CHECK.due(what + "CPU", real().cpuOf(task), t.cpu));
+        all.add(() -> CHECK.due(what + "time", real().virtualTime(task), t.time));
+        all.add(() -> CHECK.due(what + "run ticks", real().runTicks(task), t.run));
+        all.add(() -> CHECK.due(what + "wait ticks", real().waitTicks(task), t.wait));
+        all.add(() -> CHECK.due(what + "share", real().share(task), share));
     }
 
-    private void compareCpu(Model.Cpu cpu, String what) {
-        int runs = cpu.runs == null ? -1 : cpu.runs.number;
-        List<Model.Task> queue = model.queue(cpu.number);
-        CHECK.due(what + "runs", real.runningTask(cpu.number), runs);
-        CHECK.due(what + "base", real.baseOf(cpu.number), cpu.base);
-        CHECK.due(what + "idle ticks", real.idleTicks(cpu.number), cpu.idle);
-        CHECK.due(what + "forced idle ticks", real.forcedIdleTicks(cpu.number), cpu.forced);
-        CHECK.due(what + "queue length", real.queueLength(cpu.number), queue.size());
+    private void addCpu(List<Runnable> all, Model.Cpu c, String what) {
+        int cpu = c.number;
+        int runs = c.runs == null ? -1 : c.runs.number;
+        List<Model.Task> queue = model.queue(cpu);
+        all.add(() -> CHECK.due(what + "runs", real().runningTask(cpu), runs));
+        all.add(() -> CHECK.due(what + "base", real().baseOf(cpu), c.base));
+        all.add(() -> CHECK.due(what + "idle ticks", real().idleTicks(cpu), c.idle));
+        all.add(() -> CHECK.due(what + "forced idle ticks", real().forcedIdleTicks(cpu), c.forced));
+        all.add(() -> CHECK.due(what + "queue length", real().queueLength(cpu), queue.size()));
         for (int i = 0; i < queue.size(); i++) {
-            CHECK.due(what + "queue " + i, real.queuedTask(cpu.number, i), queue.get(i).number);
+            int index = i;
+            int task = queue.get(index).number;
+            all.add(() -> CHECK.due(what + "queue " + index, real().queuedTask(cpu, index), task));
         }
-        CHECK.badIndex(what + "queue", () -> real.queuedTask(cpu.number, queue.size()));
-        CHECK.badIndex(what + "queue", () -> real.queuedTask(cpu.number, -1));
+        all.add(() -> CHECK.badIndex(what + "queue", () -> real().queuedTask(cpu, queue.size())));
+        all.add(() -> CHECK.badIndex(what + "queue", () -> real().queuedTask(cpu, -1)));
+    }
+
+    private void addCore(List<Runnable> all, int core, String what) {
+        int leader = model.leader(core);
+        all.add(() -> CHECK.due(what + "cookie", real().coreCookie(core), model.cookies.get(core)));
+        all.add(() -> CHECK.due(what + "leader", real().leaderOf(core), leader));
     }
 }

@@ -2,44 +2,59 @@ import java.util.Random;
 
 /**
  * A call that throws changes nothing: two schedulers get the same calls, one of them wrong calls in
- * between, and both answer the same ever after.
+ * between, and both answer the same at once and at the end of the run. Each pair gets its wrong
+ * calls in one place of the run only and is compared once, since an object answers 512 calls.
  */
 public final class UnchangedTest {
     private static final Check CHECK = new Check("UnchangedTest");
+    private static final int CORES = 2;
+    private static final int LAST_PLACE = 15;
 
     public static void main(String[] args) {
         for (int seed = 1; seed <= 40; seed++) {
-            run(seed);
+            for (int place = 0; place <= LAST_PLACE; place++) {
+                run(seed, place, place);
+                run(seed, place, LAST_PLACE);
+            }
         }
         CHECK.end();
     }
 
-    private static void run(int seed) {
+    /** Tasks stop or wake in the even places of a run, ticks are made in the odd ones. */
+    private static void run(int seed, int wrongPlace, int lastPlace) {
+        String where = "run " + seed + ", wrong calls in " + wrongPlace + ", ";
         CoreScheduler plain = new CoreScheduler();
         CoreScheduler troubled = new CoreScheduler();
+        int tasks = start(plain, seed);
+        start(troubled, seed);
         Random random = new Random(seed);
+        for (int place = 0; place <= lastPlace; place++) {
+            if (place % 2 == 0) {
+                int exiting = random.nextInt(tasks);
+                int sleeping = random.nextInt(tasks);
+                stop(plain, exiting, sleeping);
+                stop(troubled, exiting, sleeping);
+            } else {
+                int ticks = 1 + place / 2;
+                CHECK.due(where + "tick in " + place, troubled.tick(ticks), plain.tick(ticks));
+            }
+            if (place == wrongPlace) {
+                wrongCalls(troubled, where);
+            }
+        }
+        where += "after " + lastPlace;
+        CHECK.due(where, Snapshot.of(troubled, CORES), Snapshot.of(plain, CORES));
+        CHECK.due(where + ", stealing", troubled.setStealing(false), plain.setStealing(false));
+    }
+
+    private static int start(CoreScheduler s, int seed) {
+        Random random = new Random(-seed);
         int tasks = 4 + random.nextInt(13);
         for (int i = 0; i < tasks; i++) {
-            int cpu = random.nextInt(4);
-            int weight = 1 + random.nextInt(64);
-            int cookie = random.nextInt(3);
-            plain.createTask(cpu, weight, cookie);
-            troubled.createTask(cpu, weight, cookie);
+            s.createTask(random.nextInt(4), 1 + random.nextInt(64), random.nextInt(3));
         }
-        plain.setStealing(seed % 2 == 0);
-        troubled.setStealing(seed % 2 == 0);
-        for (int round = 0; round < 8; round++) {
-            int exiting = random.nextInt(tasks);
-            int sleeping = random.nextInt(tasks);
-            stop(plain, exiting, sleeping);
-            stop(troubled, exiting, sleeping);
-            wrongCalls(troubled, "run " + seed);
-            CHECK.due("run " + seed, Snapshot.of(troubled), Snapshot.of(plain));
-            CHECK.due("tick", troubled.tick(1 + round), plain.tick(1 + round));
-            wrongCalls(troubled, "run " + seed);
-            CHECK.due("run " + seed + " later", Snapshot.of(troubled), Snapshot.of(plain));
-        }
-        CHECK.due("stealing", troubled.setStealing(false), plain.setStealing(false));
+        s.setStealing(seed % 2 == 0);
+        return tasks;
     }
 
     private static void stop(CoreScheduler s, int exiting, int sleeping) {
@@ -53,23 +68,28 @@ public final class UnchangedTest {
         }
     }
 
+    /** Odd numbers of resets and ticks, so that no second call undoes what the first has changed. */
     private static void wrongCalls(CoreScheduler s, String where) {
-        CHECK.badArgument(where + " reset", () -> s.reset(0));
-        CHECK.badArgument(where + " reset", () -> s.reset(5));
-        CHECK.badArgument(where + " tick", () -> s.tick(0));
-        CHECK.badArgument(where + " tick", () -> s.tick(101));
-        CHECK.badArgument(where + " createTask", () -> s.createTask(4, 1, 1));
-        CHECK.badArgument(where + " createTask", () -> s.createTask(0, 65, 1));
-        CHECK.badArgument(where + " createTask", () -> s.createTask(0, 1, 10));
+        CHECK.badArgument(where + "reset", () -> s.reset(0));
+        CHECK.badArgument(where + "reset", () -> s.reset(5));
+        CHECK.badArgument(where + "reset", () -> s.reset(-1));
+        CHECK.badArgument(where + "tick", () -> s.tick(0));
+        CHECK.badArgument(where + "tick", () -> s.tick(101));
+        CHECK.badArgument(where + "tick", () -> s.tick(-1));
+        CHECK.badArgument(where + "leaderOf", () -> s.leaderOf(CORES));
+        CHECK.badArgument(where + "stateOf", () -> s.stateOf(s.taskCount()));
+        CHECK.badArgument(where + "createTask", () -> s.createTask(4, 1, 1));
+        CHECK.badArgument(where + "createTask", () -> s.createTask(0, 65, 1));
+        CHECK.badArgument(where + "createTask", () -> s.createTask(0, 1, 10));
         if (s.taskCount() == 16) {
-            CHECK.badState(where + " createTask", () -> s.createTask(0, 1, 1));
+            CHECK.badState(where + "createTask", () -> s.createTask(0, 1, 1));
         }
-        CHECK.badIndex(where + " queuedTask", () -> s.queuedTask(0, s.queueLength(0)));
+        CHECK.badIndex(where + "queuedTask", () -> s.queuedTask(0, s.queueLength(0)));
         for (int i = 0; i < s.taskCount(); i++) {
             int task = i;
-            CHECK.badArgument(where + " setWeight", () -> s.setWeight(task, 0));
-            CHECK.badArgument(where + " setCookie", () -> s.setCookie(task, -1));
-            CHECK.badArgument(where + " moveTask", () -> s.moveTask(task, 4));
+            CHECK.badArgument(where + "setWeight", () -> s.setWeight(task, 0));
+            CHECK.badArgument(where + "setCookie", () -> s.setCookie(task, -1));
+            CHECK.badArgument(where + "moveTask", () -> s.moveTask(task, 4));
             wrongForState(s, task, where);
         }
     }
@@ -77,18 +97,18 @@ public final class UnchangedTest {
     private static void wrongForState(CoreScheduler s, int task, String where) {
         int state = s.stateOf(task);
         if (state != CoreScheduler.SLEEPING) {
-            CHECK.badState(where + " wake", () -> s.wake(task));
+            CHECK.badState(where + "wake", () -> s.wake(task));
         }
         if (state == CoreScheduler.SLEEPING || state == CoreScheduler.EXITED) {
-            CHECK.badState(where + " sleep", () -> s.sleep(task));
+            CHECK.badState(where + "sleep", () -> s.sleep(task));
         }
         if (state == CoreScheduler.RUNNING || state == CoreScheduler.EXITED) {
-            CHECK.badState(where + " moveTask", () -> s.moveTask(task, 1));
+            CHECK.badState(where + "moveTask", () -> s.moveTask(task, 1));
         }
         if (state == CoreScheduler.EXITED) {
-            CHECK.badState(where + " exit", () -> s.exit(task));
-            CHECK.badState(where + " setWeight", () -> s.setWeight(task, 1));
-            CHECK.badState(where + " setCookie", () -> s.setCookie(task, 1));
+            CHECK.badState(where + "exit", () -> s.exit(task));
+            CHECK.badState(where + "setWeight", () -> s.setWeight(task, 1));
+            CHECK.badState(where + "setCookie", () -> s.setCookie(task, 1));
         }
     }
 }
